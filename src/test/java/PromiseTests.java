@@ -227,7 +227,6 @@ public final class PromiseTests {
         due(7, "classOf outside", x.classOf(images("01243567")), NONE);
         due(7, "classOf no code", x.classOf(IDENTITY + 1), NONE);
         due(7, "classOf behind the codes", x.classOf(IDENTITY + 16777216), NONE);
-        // an order of factors: first x, then y
         due(12, "constant(1, 1, 2)", x.constant(1, 1, 2), 3);
         due(12, "constant(1, 1, 0)", x.constant(1, 1, 0), 3);
         due(12, "constant(2, 2, 0)", x.constant(2, 2, 0), 2);

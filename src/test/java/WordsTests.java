@@ -254,7 +254,7 @@ public final class WordsTests {
             boolean there = i >= 0 && i < count;
             due("size", shown.get().size(i), there ? words.sizes[i] : 0);
             due("least", shown.get().least(i), there ? words.codes[words.leasts[i]] : -1);
-            for (int m = -1; m <= 1001; m += m < 130 || m > 990 ? 1 : 43) {
+            for (int m = -1; m <= 1001; m += m < 130 || m > 980 ? 1 : 43) {
                 due("power", shown.get().power(i, m), there && m >= 0 && m <= 1000 ? words.power(i, m) : -1);
             }
             for (int j = -1; j <= count; j++) {
