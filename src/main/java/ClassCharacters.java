@@ -195,6 +195,9 @@ public final class ClassCharacters {
 
     /** The elements of the group that the generators make. */
     private static final class Elements {
+        /** Together with all its halves not less than MOST_ELEMENTS. */
+        private static final int WIDEST_STEP = 64;
+
         /** The codes in their order. */
         private final int[] sorted = new int[MOST_ELEMENTS];
         /** The same codes as they were found, so that each is multiplied once. */
@@ -236,18 +239,15 @@ public final class ClassCharacters {
             return true;
         }
 
+        /** How many codes are below this one, found in halving steps. */
         private int firstNotBelow(int code) {
-            int low = 0;
-            int high = count;
-            while (low < high) {
-                int middle = (low + high) / 2;
-                if (sorted[middle] < code) {
-                    low = middle + 1;
-                } else {
-                    high = middle;
+            int below = 0;
+            for (int step = WIDEST_STEP; step > 0; step /= 2) {
+                if (below + step <= count && sorted[below + step - 1] < code) {
+                    below += step;
                 }
             }
-            return low;
+            return below;
         }
     }
 
