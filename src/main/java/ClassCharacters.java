@@ -208,7 +208,8 @@ public final class ClassCharacters {
         boolean generate(int[] generators, int generatorCount) {
             count = 0;
             boolean fits = include(Codes.IDENTITY);
-            for (int next = 0; fits && next < count; next++) {
+            // the count grows meanwhile, so the room is the bound
+            for (int next = 0; next < MOST_ELEMENTS && fits && next < count; next++) {
                 for (int g = 0; fits && g < generatorCount; g++) {
                     fits = include(Codes.product(found[next], generators[g]));
                 }

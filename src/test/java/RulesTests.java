@@ -6,7 +6,9 @@ import java.nio.charset.StandardCharsets;
 import java.nio.file.Files;
 import java.nio.file.Path;
 import java.util.ArrayList;
+import java.util.HashMap;
 import java.util.List;
+import java.util.Map;
 import java.util.Set;
 import java.util.regex.Matcher;
 import java.util.regex.Pattern;
@@ -27,6 +29,7 @@ public final class RulesTests {
         String code = withoutComments(text);
         checkText(text, code);
         checkMethods(code);
+        checkDepth(code);
         checkClasses();
         System.out.println(wrong == 0 ? "the rules that can be seen are kept" : wrong + " rules broken");
         if (wrong != 0) {
@@ -64,21 +67,74 @@ public final class RulesTests {
         check(9, "no loop without a bound", !code.matches("(?s).*(while\\s*\\(\\s*true|for\\s*\\(\\s*;\\s*;).*"));
     }
 
-    /** A method's lines stand between its head, indented by one or two levels, and the same brace. */
+    /** A method's head is indented by one or two levels, and so is the brace that ends it. */
+    private static Matcher headsIn(String code) {
+        return Pattern.compile("(?m)^( {4}| {8})(?=\\w)[\\w\\[\\] ]+?(\\w+)\\(([^()]*)\\) \\{$").matcher(code);
+    }
+
+    private static boolean isStatement(String head) {
+        return head.trim().matches("(if|for|while|switch|else)\\b.*");
+    }
+
+    private static int endOf(Matcher head, String code) {
+        return code.indexOf("\n" + head.group(1) + "}", head.end() - 1);
+    }
+
     private static void checkMethods(String code) {
-        Matcher heads = Pattern.compile("(?m)^( {4}| {8})(?=\\w)[\\w\\[\\] ]+\\(([^()]*)\\) \\{$").matcher(code);
+        Matcher heads = headsIn(code);
         int found = 0;
         while (heads.find()) {
-            if (heads.group().trim().matches("(if|for|while|switch|else)\\b.*")) {
+            if (isStatement(heads.group())) {
                 continue;
             }
             found++;
-            int end = code.indexOf("\n" + heads.group(1) + "}", heads.end());
+            int end = endOf(heads, code);
             long lines = code.substring(heads.start(), Math.max(end, heads.start())).lines().count();
             check(11, heads.group().trim() + " has " + lines + " lines", end > 0 && lines <= 60);
-            check(11, heads.group().trim(), heads.group(2).split(",").length <= 7);
+            check(11, heads.group().trim(), heads.group(3).split(",").length <= 7);
         }
         check(11, "methods were found in the text", found > 40);
+    }
+
+    /** Methods of one name in two classes count as one, which can make a chain longer but not shorter. */
+    private static Map<String, String> bodies(String code) {
+        Map<String, String> bodies = new HashMap<>();
+        Matcher heads = headsIn(code);
+        while (heads.find()) {
+            if (!isStatement(heads.group())) {
+                bodies.merge(heads.group(2), code.substring(heads.end(), endOf(heads, code)), String::concat);
+            }
+        }
+        return bodies;
+    }
+
+    private static void checkDepth(String code) {
+        Map<String, String> bodies = bodies(code);
+        int most = 0;
+        for (String method : bodies.keySet()) {
+            most = Math.max(most, depthOf(method, bodies, new ArrayList<>()));
+        }
+        check(11, "calls are found in the text", most > 3);
+        check(11, "calls go " + most + " deep", most <= 8);
+    }
+
+    /** How many calls stand open at most, the library's among them, once this method is called. */
+    private static int depthOf(String method, Map<String, String> bodies, List<String> open) {
+        if (!bodies.containsKey(method)) {
+            return 1;
+        }
+        if (open.contains(method)) {
+            check(8, "no recursion: " + open + " " + method, false);
+            return 1;
+        }
+        open.add(method);
+        int deepest = 0;
+        Matcher calls = Pattern.compile("(\\w+)\\(").matcher(bodies.get(method));
+        while (calls.find()) {
+            deepest = Math.max(deepest, depthOf(calls.group(1), bodies, open));
+        }
+        open.remove(open.size() - 1);
+        return deepest + 1;
     }
 
     private static void checkClasses() {

@@ -82,6 +82,7 @@ public final class WordsTests {
         checkRandomGroups(random);
         for (int run = 0; run < 400; run++) {
             mixedRun(groups, random);
+            reusedRun(groups, random);
         }
         System.out.println(checked + " answers checked against the words, " + wrong + " wrong");
         if (wrong != 0) {
@@ -394,6 +395,52 @@ public final class WordsTests {
                 built = words.outcome == ClassCharacters.FINE ? words : null;
             }
             look(x, built, random);
+        }
+    }
+
+    /** An object that has built other groups before answers what a new one does: at most 512 calls. */
+    private static void reusedRun(List<int[]> groups, Random random) {
+        ClassCharacters used = new ClassCharacters();
+        for (int round = 0; round < 8; round++) {
+            int[] generators = renamed(groups.get(random.nextInt(groups.size())), random);
+            ClassCharacters fresh = new ClassCharacters();
+            used.clear();
+            for (int code : generators) {
+                due("add again", used.add(code) ? 1 : 0, fresh.add(code) ? 1 : 0);
+            }
+            due("build() again", used.build(), fresh.build());
+            for (int k = 0; k < 20; k++) {
+                compare(used, fresh, random);
+            }
+            due("normals() again", used.normals(), fresh.normals());
+            due("prime() again", used.prime(), fresh.prime());
+            due("root() again", used.root(), fresh.root());
+        }
+    }
+
+    /** The classes and rows beyond the last of most groups are asked for too. */
+    private static void compare(ClassCharacters used, ClassCharacters fresh, Random random) {
+        int a = random.nextInt(17);
+        int b = random.nextInt(17);
+        int c = random.nextInt(17);
+        int k = random.nextInt(121);
+        switch (random.nextInt(4)) {
+            case 0 -> {
+                due("element again", used.element(k), fresh.element(k));
+                due("power again", used.power(a, k * 8), fresh.power(a, k * 8));
+            }
+            case 1 -> {
+                due("constant again", used.constant(a, b, c), fresh.constant(a, b, c));
+                due("indicator again", used.indicator(a), fresh.indicator(a));
+            }
+            case 2 -> {
+                due("value again", used.value(a, b), fresh.value(a, b));
+                due("kernel again", used.kernel(a), fresh.kernel(a));
+            }
+            default -> {
+                due("multiplicity again", used.multiplicity(a, b, c), fresh.multiplicity(a, b, c));
+                due("degree again", used.degree(a), fresh.degree(a));
+            }
         }
     }
 
